@@ -2,8 +2,8 @@
  * Provenance of artefacts: who built each, from which sources, by which tools, needing which
  * others, and when; and the policy that is asked of an artefact and of all that it rests on.
  *
- * <p>Every array has the size of the document's limit and is made once, with the object: no call
- * makes anything, however often it is made.
+ * <p>Every array has the size of the document's limit and is made once, with the object, so that
+ * no call makes anything anew.
  */
 public final class ProvenanceRows {
     public static final int NONE = -1;
@@ -254,7 +254,7 @@ public final class ProvenanceRows {
             case KIND_AGREE:
                 return artefacts.clashesWithAny(artefact);
             case KIND_EMPTY:
-                return artefacts.used.counts[artefact] == 0 && artefacts.needed.counts[artefact] == 0;
+                return artefacts.restsOnNothing(artefact);
             case KIND_CLOSURE:
                 countedClosure.walk(artefacts, artefact);
                 return countedClosure.count > v;
@@ -377,7 +377,7 @@ public final class ProvenanceRows {
                 for (int k = 0; k < needed.counts[artefact]; k++) {
                     boolean fits = needed.valueAt(artefact, k) == digests[newcomer];
                     if (fits && metByAt(artefact, k) == NONE) {
-                        metBy[Rows.slot(artefact, k)] = newcomer;
+                        metBy[artefact * MOST_IN_ROW + k] = newcomer;
                     }
                 }
             }
@@ -388,7 +388,7 @@ public final class ProvenanceRows {
             if (!needed.append(artefact, digest)) {
                 return false;
             }
-            metBy[Rows.slot(artefact, place)] = firstOf(digest);
+            metBy[artefact * MOST_IN_ROW + place] = firstOf(digest);
             return true;
         }
 
@@ -402,7 +402,7 @@ public final class ProvenanceRows {
         }
 
         int metByAt(int artefact, int k) {
-            return metBy[Rows.slot(artefact, k)];
+            return metBy[artefact * MOST_IN_ROW + k];
         }
 
         /** Loses nothing: what used holds are the numbers of sources, which are ints. */
@@ -434,6 +434,10 @@ public final class ProvenanceRows {
             return false;
         }
 
+        boolean restsOnNothing(int artefact) {
+            return used.counts[artefact] == 0 && needed.counts[artefact] == 0;
+        }
+
         boolean clashesWithAny(int artefact) {
             for (int other = 0; other < count; other++) {
                 if (clashing(artefact, other)) {
@@ -445,14 +449,14 @@ public final class ProvenanceRows {
 
         /** An artefact agrees with itself, so it never clashes with itself either. */
         boolean clashing(int a, int b) {
-            return digests[a] == digests[b] && !agreeing(a, b);
-        }
-
-        private boolean agreeing(int a, int b) {
-            return builders[a] == builders[b]
+            if (digests[a] != digests[b]) {
+                return false;
+            }
+            boolean agree = builders[a] == builders[b]
                     && tools[a] == tools[b]
                     && used.sameInOrder(a, b)
                     && needed.sameInOrder(a, b);
+            return !agree;
         }
 
         void setPath(int artefact, int path, long digest) {
@@ -472,19 +476,15 @@ public final class ProvenanceRows {
         final int[] counts = new int[MOST_ARTEFACTS];
         private final long[] values = new long[MOST_ARTEFACTS * MOST_IN_ROW];
 
-        static int slot(int row, int k) {
-            return row * MOST_IN_ROW + k;
-        }
-
         long valueAt(int row, int k) {
-            return values[slot(row, k)];
+            return values[row * MOST_IN_ROW + k];
         }
 
         boolean append(int row, long value) {
             if (counts[row] >= MOST_IN_ROW || contains(row, value)) {
                 return false;
             }
-            values[slot(row, counts[row])] = value;
+            values[row * MOST_IN_ROW + counts[row]] = value;
             counts[row]++;
             return true;
         }

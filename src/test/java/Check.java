@@ -1,7 +1,8 @@
 /** Counts the answers that are not as due, and tells each. */
 final class Check {
     /** Numbers that no source, artefact, rule or path ever has. */
-    static final int[] WRONG_NUMBERS = {-1, -2, 32, 33, 64, 256, Integer.MAX_VALUE, Integer.MIN_VALUE};
+    static final int[] WRONG_NUMBERS = {
+        -1, -2, 32, 33, 64, 256, Integer.MAX_VALUE, Integer.MIN_VALUE};
 
     private int asked = 0;
     private int wrong = 0;

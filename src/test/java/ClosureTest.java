@@ -15,7 +15,9 @@ public final class ClosureTest {
         holdsGoesByNumbers();
         holdsLooksAtDigestsOfSources();
         holdsAsksForAPlace();
+        holdsLooksAtAllThirtyTwo();
         missingTellsPlaces();
+        missingOfFullRows();
         missingAsksForBoth();
         CHECK.end();
     }
@@ -184,6 +186,19 @@ public final class ClosureTest {
         CHECK.due("holds(2, 0)", x.holds(2, 0), -1);
     }
 
+    private static void holdsLooksAtAllThirtyTwo() {
+        ProvenanceRows x = Check.with(32, 24);
+        x.uses(31, 23);
+        CHECK.due("holds(24, 0)", x.holds(24, 0), 31);
+        CHECK.due("holds(24, 1)", x.holds(24, 1), -1);
+        for (int k = 0; k < 31; k++) {
+            x.needs(k, 1031);
+        }
+        CHECK.due("holds(24, 30)", x.holds(24, 30), 30);
+        CHECK.due("holds(24, 31)", x.holds(24, 31), 31);
+        CHECK.due("holds(24, 32)", x.holds(24, 32), -1);
+    }
+
     private static void missingTellsPlaces() {
         ProvenanceRows x = Check.withArtefacts(2);
         x.needs(1, 1000);
@@ -199,6 +214,17 @@ public final class ClosureTest {
         CHECK.due("missing(1, 1) with one fewer", x.missing(1, 1), 4);
         CHECK.due("missing(1, 2) with one fewer", x.missing(1, 2), -1);
         CHECK.due("missing of one without needs", x.missing(0, 0), -1);
+    }
+
+    private static void missingOfFullRows() {
+        ProvenanceRows x = Check.withArtefacts(32);
+        for (int k = 0; k < 6; k++) {
+            x.needs(30, 1000 + k);
+            x.needs(31, 50 + k);
+        }
+        CHECK.due("all six are met, though the next one's aren't", x.missing(30, 0), -1);
+        CHECK.due("missing(31, 5)", x.missing(31, 5), 5);
+        CHECK.due("missing(31, 6)", x.missing(31, 6), -1);
     }
 
     private static void missingAsksForBoth() {

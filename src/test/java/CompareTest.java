@@ -11,6 +11,8 @@ public final class CompareTest {
         differAsksForBoth();
         clashGoesByLesserThenGreater();
         clashComparesRowsInOrder();
+        clashOfFullRows();
+        clashLooksAtAllThirtyTwo();
         clashAsksForAPlaceAndASide();
         CHECK.end();
     }
@@ -152,6 +154,41 @@ public final class CompareTest {
         x.needs(1, 3);
         x.needs(1, 2);
         duePair(x, 0, 0, 1);
+    }
+
+    private static void clashOfFullRows() {
+        ProvenanceRows x = Check.with(1, 7);
+        x.artefact(1, 0, 0, 0, 0);
+        x.artefact(2, 0, 0, 0, 0);
+        x.artefact(1, 0, 0, 0, 0);
+        x.artefact(3, 0, 0, 0, 0);
+        for (int k = 0; k < 6; k++) {
+            x.uses(1, k);
+            x.uses(3, k);
+            x.needs(1, 50 + k);
+            x.needs(3, 50 + k);
+        }
+        x.uses(2, 5);
+        x.uses(4, 6);
+        x.needs(2, 90);
+        x.needs(4, 91);
+        duePair(x, 0, -1, -1);
+        CHECK.due("differ(1, 3)", x.differ(1, 3), 0);
+    }
+
+    private static void clashLooksAtAllThirtyTwo() {
+        ProvenanceRows zero = new ProvenanceRows();
+        zero.artefact(0, 1, 1, 1, 1);
+        duePair(zero, 0, -1, -1);
+        ProvenanceRows x = new ProvenanceRows();
+        for (int k = 0; k < 32; k++) {
+            x.artefact(0, k % 8, k / 8, 0, 0);
+        }
+        duePair(x, 0, 0, 1);
+        duePair(x, 30, 0, 31);
+        duePair(x, 31, 1, 2);
+        duePair(x, 495, 30, 31);
+        duePair(x, 496, -1, -1);
     }
 
     private static void clashAsksForAPlaceAndASide() {

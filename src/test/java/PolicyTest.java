@@ -11,6 +11,7 @@ public final class PolicyTest {
         kind5AsksForWhatMeetsNeeds();
         kind6AsksForTimes();
         kind7AsksWhetherRowsAgree();
+        kind7LooksAtTheFirstAndTheLast();
         kind7ComparesRowsInOrder();
         kind8AsksForSourcesOrNeeds();
         kind9CountsTheClosure();
@@ -108,6 +109,9 @@ public final class PolicyTest {
         dueForValue(x, 4, 0, true);
         x.fetched(1, true);
         dueForValue(x, 4, -1, false);
+        ProvenanceRows unused = Check.with(1, 1);
+        unused.fetched(0, false);
+        dueForValue(unused, 4, 0, false);
     }
 
     private static void kind5AsksForWhatMeetsNeeds() {
@@ -143,6 +147,8 @@ public final class PolicyTest {
         late.needs(0, 1000);
         dueForValue(late, 6, -1, true);
         dueForValue(late, 6, 0, false);
+        late.policy(6, Integer.MIN_VALUE);
+        CHECK.due("one without needs has none that is later", late.breaks(1, 5), false);
     }
 
     private static void kind7AsksWhetherRowsAgree() {
@@ -162,6 +168,22 @@ public final class PolicyTest {
         dueForValue(unknown, 7, 0, false);
         unknown.artefact(1000, 0, 0, 0, 0);
         dueForValue(unknown, 7, 0, true);
+    }
+
+    private static void kind7LooksAtTheFirstAndTheLast() {
+        ProvenanceRows two = oneArtefact(0, 0, 0, 0);
+        two.artefact(1000, 1, 0, 0, 0);
+        two.policy(7, 0);
+        CHECK.due("the first doesn't agree with the second", two.breaks(0, 0), true);
+        CHECK.due("the second doesn't agree with the first", two.breaks(1, 0), true);
+        ProvenanceRows zero = new ProvenanceRows();
+        zero.artefact(0, 1, 1, 1, 1);
+        dueForValue(zero, 7, 0, false);
+        ProvenanceRows full = Check.withArtefacts(31);
+        full.artefact(1000, 0, 1, 0, 0);
+        dueForValue(full, 7, 0, true);
+        CHECK.due("the last of 32", full.breaks(31, 0), true);
+        CHECK.due("another of 32", full.breaks(30, 0), false);
     }
 
     private static void kind7ComparesRowsInOrder() {
