@@ -35,6 +35,7 @@ public final class LeftAsItWasTest {
         refusedAsks(some);
         asksThatAreAnswered(some);
         asksThatAreKept(some);
+        verdictThatFindsNothing();
         tellsThatAreTaken(some);
         refusedByAFullOne();
         CHECK.end();
@@ -276,6 +277,23 @@ public final class LeftAsItWasTest {
         some.due("closure(4)", x -> x.closure(4), 1, "at");
         some.due("verdict(4)", x -> x.verdict(4), 0, "culprit");
         some.due("verdict(1)", x -> x.verdict(1), 2, "culprit");
+    }
+
+    /** Artefact 0 breaks the rule, artefact 1 doesn't, and nothing else was asked since. */
+    private static ProvenanceRows halfBroken() {
+        ProvenanceRows x = Check.with(2, 1);
+        x.uses(1, 0);
+        x.policy(8, 0);
+        x.closure(1);
+        x.verdict(0);
+        return x;
+    }
+
+    private static void verdictThatFindsNothing() {
+        LeftAsItWasTest half = new LeftAsItWasTest("half", LeftAsItWasTest::halfBroken, 0, 1);
+        half.due("verdict(1)", x -> x.verdict(1), -1);
+        half.due("verdict(0) again", x -> x.verdict(0), 0);
+        half.due("closure(1) again", x -> x.closure(1), 1);
     }
 
     private static void tellsThatAreTaken(LeftAsItWasTest some) {
